@@ -158,7 +158,9 @@ public final class AlarmTables {
         long due;
         /** What a table that has begun is DUE for; null is the END. */
         Point coming;
+        /** The DEVIATION; it outlives the END, since deviation() still tells it then. */
         long drift;
+        /** The NEXT table, or null. */
         Table told;
         Table behind;
 
