@@ -6,7 +6,8 @@ import java.util.TreeMap;
 
 /**
  * Random runs, with a fixed seed each, against a model that is built another way: it counts down what is left until a
- * thing is DUE, looks at everything in each STEP, and searches for circles anew each time.
+ * thing is DUE, looks at everything in each STEP, and searches for circles anew each time. Its 512 calls are the random
+ * ones; between them it reads the whole state, more often than the document promises, as the class counts no calls.
  */
 final class ModelTest {
     private static final Due due = new Due();
