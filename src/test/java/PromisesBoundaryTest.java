@@ -216,6 +216,10 @@ final class PromisesBoundaryTest {
         says("promise 4: SET anew behind its expiry, and behind cancel", "counter(10, 1) = 1", "alarm(1, 0, 0) = 1",
             "set(1, 1, 0, false) = 1", "tick(1, 1) = 1", "set(1, 9, 0, false) = 1", "tick(1, 8) = 0", "cancel(1) = 1",
             "set(1, 2, 0, false) = 1", "tick(1, 1) = 0", "tick(1, 1) = 1", "log(0) = A1@1 A1@1");
+        says("promise 4: SET anew with another CYCLE, or none", "counter(10, 1) = 1", "alarm(1, 0, 0) = 1",
+            "set(1, 1, 3, false) = 1", "tick(1, 4) = 2", "cancel(1) = 1", "set(1, 1, 2, false) = 1", "tick(1, 3) = 2",
+            "cancel(1) = 1", "set(1, 1, 0, false) = 1", "tick(1, 9) = 1", "cancel(1) ! 5",
+            "log(0) = A1@1 A1@4 A1@5 A1@7 A1@8");
     }
 
     private static void cancel() {

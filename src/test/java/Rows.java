@@ -84,7 +84,7 @@ final class Rows {
     }
 
     private String log(int from) {
-        int noted = Math.max(0, Math.min(3000, x.expired(-1, 0)) - from);
+        int noted = Math.max(0, Math.min(Due.MOST_NOTED, x.expired(-1, 0)) - from);
         count(2 + 5 * noted);
         return Due.log(x, from);
     }

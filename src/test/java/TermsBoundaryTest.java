@@ -343,16 +343,21 @@ final class TermsBoundaryTest {
                 "tick(1, 5000) = 20001", "cancel(9) ! 5")));
     }
 
-    /** Each odd STEP of counter 1 asks for 4 STEPS of counter 2, and they for 6 of counter 3: 2000 times 10 are made. */
+    /** Each odd STEP of counter 1 asks for 4 STEPS of counter 2, and each second one of them for 3 of counter 3. */
     private static void stepsMadeByActsOfActs() {
-        says("Terms: at most 20000 STEPS by ACTs, those of ACTs within ACTs too", Rows.of(
-            List.of("counter(10, 1) = 1", "counter(1000000, 1) = 2", "counter(1000000, 1) = 3"),
+        List<String> chain = Rows.of(
+            List.of("counter(10, 1) = 1", "counter(1000000, 1) = 2", "counter(1000000, 1) = 3", "counter(10, 1) = 4"),
             Rows.each(1, 4, "alarm(1, 1, 2) = #"),
             Rows.each(5, 7, "alarm(2, 1, 3) = #"),
             Rows.each(1, 4, "set(#, 1, 2, false) = 1"),
-            Rows.each(5, 7, "set(#, 2, 2, false) = 1"),
+            Rows.each(5, 7, "set(#, 2, 2, false) = 1"));
+        says("Terms: at most 20000 STEPS by ACTs, those of ACTs within ACTs too: 2000 times 10 are made", Rows.of(chain,
             List.of("tick(1, 5000) = 22000", "alarm(2, 0, 0) = 8", "alarm(3, 0, 0) = 9", "set(8, 8001, 0, true) = 1",
                 "set(9, 12001, 0, true) = 1", "tick(3, 1) = 1", "tick(2, 1) = 1")));
+        says("Terms: at most 20000 STEPS by ACTs, the first that is not made is one within an ACT", Rows.of(chain,
+            List.of("alarm(1, 1, 4) = 8", "set(8, 1, 0, false) = 1", "tick(1, 5000) = 22001", "alarm(2, 0, 0) = 9",
+                "alarm(3, 0, 0) = 10", "set(9, 8001, 0, true) = 1", "set(10, 12000, 0, true) = 1", "tick(3, 1) = 1",
+                "tick(2, 1) = 1")));
     }
 
     private static void expiredNoted() {
