@@ -474,8 +474,8 @@ final class PromisesBoundaryTest {
             List.of("counter(10, 1) = 1", "table(1, 1000000) = 1", "point(1, 0, 0) = 1", "point(1, 999999, 0) = 2",
                 "point(1, 1000000, 0) = 3", "start(1, 1) = 1", "tick(1, 5000) = 1"),
             Rows.each(1, 198, "tick(1, 5000) = 0"),
-            List.of("tick(1, 4999) = 0", "tick(1, 1) = 1", "tick(1, 1) = 2", "expired(0, 2) = 0", "expired(1, 2) = 999999", "expired(2, 2) = 1000000",
-                "expired(3, 2) = 0", "expired(3, 0) = 2")));
+            List.of("tick(1, 4999) = 0", "tick(1, 1) = 1", "tick(1, 1) = 2", "expired(0, 2) = 0",
+                "expired(1, 2) = 999999", "expired(2, 2) = 1000000", "expired(3, 2) = 0", "expired(3, 0) = 2")));
         says("promise 12: how many there were, also beyond the 3000 that are noted", "counter(10, 1) = 1",
             "alarm(1, 0, 0) = 1", "set(1, 1, 2, false) = 1", "tick(1, 5000) = 2500", "tick(1, 5000) = 2500",
             "expired(-1, 0) = 5000", "expired(2999, 0) = 0", "expired(3000, 0) ! -1", "expired(3000, 4) ! -1",
